@@ -486,6 +486,12 @@ public final class DoorLister {
         private int come;
         private boolean opens;
         private boolean stale;
+        /** The instruction that the group at hand stands at. */
+        private int at;
+        private int kind;
+        private int x;
+        private int n;
+        private int to;
 
         Paths(Code code, Scratch scratch) {
             this.code = code;
@@ -527,7 +533,7 @@ public final class DoorLister {
             for (int back = length - 1; back > i; back--) {
                 item = parent(item);
             }
-            return at(item);
+            return links[item] >>> AT_SHIFT & HIGHEST;
         }
 
         Paths searched() {
@@ -553,17 +559,12 @@ public final class DoorLister {
 
         /** Goes on from a group: where it parts, the lesser instruction first, which keeps the order of rows. */
         private void leave(int head, int end) {
-            int at = at(head);
-            int kind = code.kind(at);
-            int low = at + 1;
-            int high = at + 1;
-            if (kind == GO) {
-                low = code.to(at);
-                high = low;
-            } else if (kind == IF) {
-                low = Math.min(low, code.to(at));
-                high = Math.max(high, code.to(at));
+            fetch(links[head] >>> AT_SHIFT & HIGHEST);
+            if (kind == END) {
+                return;
             }
+            int low = kind == GO ? to : kind == IF ? Math.min(at + 1, to) : at + 1;
+            int high = kind == IF ? Math.max(at + 1, to) : low;
             opens = true;
             for (int item = head; item < end; item++) {
                 step(item, low);
@@ -574,72 +575,72 @@ public final class DoorLister {
             }
         }
 
+        private void fetch(int instruction) {
+            at = instruction;
+            kind = code.kind(at);
+            x = code.x(at);
+            n = code.n(at);
+            to = code.to(at);
+        }
+
+        /** Those states of an item that go on at that instruction do so. */
         private void step(int item, int next) {
-            int at = at(item);
-            int kind = code.kind(at);
-            if (kind == END) {
-                return;
-            }
-            int first = first(item);
-            int mask = maskAfter(item, next);
-            if (kind == CALL) {
-                note(item, phase(item), first, mask);
-            }
-            int phase = kind == POINT ? AFTER : phase(item);
-            if (code.x(at) == 0 && (kind == COPY || kind == READ)) {
-                for (int value = 0; value < VALUES && mask != 0; value++) {
-                    push(item, phase, next, value, kind == COPY ? mask & 1 << value : mask);
-                }
-            } else {
-                push(item, phase, next, firstAfter(at, first), mask);
-            }
-        }
-
-        /** The numbers in register 1 of those states of an item that go on at that instruction. */
-        private int maskAfter(int item, int next) {
-            int at = at(item);
+            int link = links[item];
+            int phase = link >>> PHASE_SHIFT & 1;
+            int first = link & HIGHEST;
             int mask = scratch.mask(item);
-            int kind = code.kind(at);
-            if (kind == IF) {
-                return goingTo(next, at, first(item), mask);
+            switch (kind) {
+                case IF:
+                    push(item, phase, next, first, goingTo(next, first, mask));
+                    return;
+                case GO:
+                    push(item, phase, next, first, mask);
+                    return;
+                case CALL:
+                    note(item, phase, first, mask);
+                    push(item, phase, next, first, mask);
+                    return;
+                case POINT:
+                    push(item, AFTER, next, first, mask);
+                    return;
+                default:
+                    break;
             }
-            if (kind == READ && code.x(at) == 0) {
-                return scratch.give(phase(item), at, mask);
+            if (x == 1) {
+                push(item, phase, next, first, secondAfter(first, mask));
+            } else if (kind == READ) {
+                pushAll(item, phase, next, scratch.give(phase, at, mask));
+            } else if (kind == COPY) {
+                pushEqual(item, phase, next, mask);
+            } else {
+                push(item, phase, next, firstAfter(first), mask);
             }
-            return code.x(at) == 1 ? secondAfter(at, first(item), mask) : mask;
         }
 
-        private int goingTo(int next, int at, int first, int mask) {
-            int n = code.n(at);
+        private int goingTo(int next, int first, int mask) {
             int below = mask & (1 << n) - 1;
-            if (code.x(at) == 0) {
+            if (x == 0) {
                 below = first < n ? mask : 0;
             }
-            int going = code.to(at) == next ? below : 0;
+            int going = to == next ? below : 0;
             return at + 1 == next ? going | mask & ~below : going;
         }
 
-        private int firstAfter(int at, int first) {
-            if (code.x(at) != 0) {
-                return first;
-            }
-            switch (code.kind(at)) {
-                case SET: return code.n(at);
-                case ADD: return first + code.n(at) & HIGHEST;
-                case MASK: return first & code.n(at);
-                default: return first;
+        private int firstAfter(int first) {
+            switch (kind) {
+                case SET: return n;
+                case ADD: return first + n & HIGHEST;
+                default: return first & n;
             }
         }
 
-        private int secondAfter(int at, int first, int mask) {
-            int n = code.n(at);
-            switch (code.kind(at)) {
+        private int secondAfter(int first, int mask) {
+            switch (kind) {
                 case SET: return 1 << n;
                 case ADD: return n == 0 ? mask : mask << n | mask >>> VALUES - n;
                 case COPY: return 1 << first;
                 case READ: return -1;
-                case MASK: return masked(mask, n);
-                default: return mask;
+                default: return masked(mask, n);
             }
         }
 
@@ -663,19 +664,31 @@ public final class DoorLister {
             calls.add(phase, door, found);
         }
 
-        private void push(int parent, int phase, int at, int first, int mask) {
-            if (!code.has(at) || size >= MOST) {
+        private void pushAll(int parent, int phase, int next, int mask) {
+            for (int value = 0; value < VALUES && mask != 0; value++) {
+                push(parent, phase, next, value, mask);
+            }
+        }
+
+        private void pushEqual(int parent, int phase, int next, int mask) {
+            for (int value = 0; value < VALUES; value++) {
+                push(parent, phase, next, value, mask & 1 << value);
+            }
+        }
+
+        private void push(int parent, int phase, int next, int first, int mask) {
+            if (mask == 0 || size >= MOST || !code.has(next)) {
                 return;
             }
-            int entered = scratch.enter(phase, at, first, mask);
+            int entered = scratch.enter(phase, next, first, mask);
             if (entered == 0) {
                 return;
             }
             int opening = opens ? 1 << OPENS_SHIFT : 0;
-            links[size] = parent << PARENT_SHIFT | opening | phase << PHASE_SHIFT | at << AT_SHIFT | first;
+            links[size] = parent << PARENT_SHIFT | opening | phase << PHASE_SHIFT | next << AT_SHIFT | first;
             scratch.keep(size, entered);
             size++;
-            come |= 1 << at;
+            come |= 1 << next;
             opens = false;
         }
 
@@ -689,18 +702,6 @@ public final class DoorLister {
 
         private int parent(int item) {
             return links[item] >>> PARENT_SHIFT;
-        }
-
-        private int phase(int item) {
-            return links[item] >>> PHASE_SHIFT & 1;
-        }
-
-        private int at(int item) {
-            return links[item] >>> AT_SHIFT & HIGHEST;
-        }
-
-        private int first(int item) {
-            return links[item] & HIGHEST;
         }
 
         private static int callNumber(int phase, int door, int argument) {
