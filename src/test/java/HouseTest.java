@@ -71,8 +71,8 @@ public final class HouseTest {
     }
 
     private static void dueShut(Check check, DoorLister lister, int power, int calls, int effects) {
-        check.due("shut", lister.shut(1, power), calls);
         check.due("cuts", lister.cuts(1, power), effects);
+        check.due("shut", lister.shut(1, power), calls);
     }
 
     /** One effect of many calls against two of few. */
@@ -133,6 +133,7 @@ public final class HouseTest {
         lister.run(1, 1);
         dueShut(check, lister, 1, 4, 1);
         check.due("seen of one of the set", lister.shut(3, 1), 12);
+        check.due("not of one", lister.shut(1, 1), 4);
         check.due("its cuts", lister.cuts(3, 1), 2);
         check.due("it can't be", lister.shut(3, 0), -1);
         check.due("it can't be", lister.cuts(3, 0), -1);

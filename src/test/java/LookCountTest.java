@@ -42,6 +42,10 @@ public final class LookCountTest {
         }
         lister.change(0, 1, Kinds.MASK, 0, 15, 0);
         check.due("comes to 3 then", lister.look(0, 3, 4), 1);
+        lister.change(0, 4, Kinds.END, 0, 0, 0);
+        lister.change(0, 2, Kinds.IF, 0, 0, 5);
+        check.due("comes to 4 still", lister.look(0, 4, 4), 1);
+        check.due("no more to 5", lister.look(0, 5, 4), 0);
     }
 
     private static void counts(Check check) {

@@ -88,6 +88,9 @@ public final class RunTest {
         check.due("again", lister.run(0, 0), 6);
         check.due("no more", lister.count(0, 4), 3);
         check.due("not of others", lister.count(1, 3), 0);
+        lister.code(1, Kinds.CALL, 0, 0, 0);
+        check.due("each run begins anew", lister.run(1, 0), 1);
+        check.due("with registers of 0, at start", lister.seen(1, 0, 0), 1);
     }
 
     private static void ends(Check check) {

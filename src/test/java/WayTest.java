@@ -8,6 +8,7 @@ public final class WayTest {
         shortBeforeLeast(check);
         lastInstructionCounts(check);
         oftenGone(check);
+        manyMeet(check);
         wrongOnes(check);
         check.end();
     }
@@ -89,6 +90,18 @@ public final class WayTest {
         check.due("far beyond a run", far.steps(0, 0, 31, 0), 31 * (31 * 3 + 5) + 31 * 3 + 3);
         check.due("its last", far.way(0, 0, 31, 0, 3133), 3);
         check.due("behind it", far.way(0, 0, 31, 0, 3134), -1);
+    }
+
+    /** Ways that part and meet again and again: more of them than can be told one by one. */
+    private static void manyMeet(Check check) {
+        DoorLister lister = new DoorLister();
+        Kinds.write(lister, 0, Kinds.row(Kinds.READ, 1), Kinds.row(Kinds.IF, 1, 16, 4), Kinds.row(Kinds.ADD, 0, 1),
+                Kinds.row(Kinds.GO, 0, 0, 5), Kinds.row(Kinds.ADD, 0, 1), Kinds.row(Kinds.IF, 0, 31, 0),
+                Kinds.row(Kinds.CALL));
+        check.due("short rounds alone", lister.steps(0, 0, 31, 3), 31 * 4 + 1);
+        check.due("a long round at the end", lister.steps(0, 0, 31, 20), 31 * 4 + 2);
+        check.due("not before", lister.way(0, 0, 31, 20, 118), 4);
+        check.due("then", lister.way(0, 0, 31, 20, 122), 2);
     }
 
     private static void wrongOnes(Check check) {
