@@ -46,7 +46,8 @@ public final class DoorLister {
     public DoorLister() {
         Scratch scratch = new Scratch();
         for (int p = 0; p < PROGRAMS; p++) {
-            programs[p] = new Program(scratch);
+            Code code = new Code();
+            programs[p] = new Program(code, new Paths(code, scratch));
         }
     }
 
@@ -711,12 +712,13 @@ public final class DoorLister {
 
     /** A code, what runs of it called, and its paths, which every change of the code makes stale. */
     private static final class Program {
-        private final Code code = new Code();
-        private final CallTable called = new CallTable();
+        private final Code code;
         private final Paths paths;
+        private final CallTable called = new CallTable();
 
-        Program(Scratch scratch) {
-            paths = new Paths(code, scratch);
+        Program(Code code, Paths paths) {
+            this.code = code;
+            this.paths = paths;
         }
 
         Code instructions() {

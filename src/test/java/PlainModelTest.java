@@ -4,7 +4,8 @@ import java.util.Random;
 public final class PlainModelTest {
     private static final int RUNS = 1500;
     private static final int CALLS = 512;
-    private static final int[] FAR = {-1, -2, 2, 4, 5, 8, 10, 16, 24, 25, 32, 255, 256, Integer.MIN_VALUE, Integer.MAX_VALUE};
+    private static final int[] FAR = {-1, -2, 2, 4, 5, 8, 10, 16, 24, 25, 32, 255, 256, Integer.MIN_VALUE,
+        Integer.MAX_VALUE};
     private static final int[] KINDS = {0, 0, 1, 1, 1, 2, 3, 3, 3, 4, 5, 5, 5, 6, 7, 7, 7, 7, 8, 9};
 
     private final Random random;
