@@ -455,7 +455,7 @@ public final class DoorLister {
             return entered;
         }
 
-        /** A READ of register 0 forgets what was in it, so it needs to be gone once for each number in the other. */
+        /** READ and COPY into register 0 forget what was in it, so each is gone once for each number in the other. */
         int give(int phase, int at, int mask) {
             int place = phase * CODE_MOST + at;
             int left = mask & ~given[place];
@@ -609,10 +609,11 @@ public final class DoorLister {
             }
             if (x == 1) {
                 push(item, phase, next, first, secondAfter(first, mask));
-            } else if (kind == READ) {
-                pushAll(item, phase, next, scratch.give(phase, at, mask));
-            } else if (kind == COPY) {
-                pushEqual(item, phase, next, mask);
+            } else if (kind == READ || kind == COPY) {
+                int left = scratch.give(phase, at, mask);
+                for (int value = 0; value < VALUES && left != 0; value++) {
+                    push(item, phase, next, value, kind == READ ? left : left & 1 << value);
+                }
             } else {
                 push(item, phase, next, firstAfter(first), mask);
             }
@@ -663,18 +664,6 @@ public final class DoorLister {
                 }
             }
             calls.add(phase, door, found);
-        }
-
-        private void pushAll(int parent, int phase, int next, int mask) {
-            for (int value = 0; value < VALUES && mask != 0; value++) {
-                push(parent, phase, next, value, mask);
-            }
-        }
-
-        private void pushEqual(int parent, int phase, int next, int mask) {
-            for (int value = 0; value < VALUES; value++) {
-                push(parent, phase, next, value, mask & 1 << value);
-            }
         }
 
         private void push(int parent, int phase, int next, int first, int mask) {

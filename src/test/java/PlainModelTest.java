@@ -4,6 +4,7 @@ import java.util.Random;
 public final class PlainModelTest {
     private static final int RUNS = 1500;
     private static final int CALLS = 512;
+    private static final int CALLS_AT_ONCE = 33;
     private static final int[] FAR = {-1, -2, 2, 4, 5, 8, 10, 16, 24, 25, 32, 255, 256, Integer.MIN_VALUE,
         Integer.MAX_VALUE};
     private static final int[] KINDS = {0, 0, 1, 1, 1, 2, 3, 3, 3, 4, 5, 5, 5, 6, 7, 7, 7, 7, 8, 9};
@@ -13,11 +14,15 @@ public final class PlainModelTest {
     private final DoorLister lister = new DoorLister();
     private final PlainLister plain = new PlainLister();
     private final boolean narrow;
+    /** One number of so many is drawn from far outside. */
+    private final int oneFarIn;
     private final StringBuilder told = new StringBuilder();
+    private int calls = 0;
 
     private PlainModelTest(long seed, Check check) {
         random = new Random(seed);
         narrow = random.nextBoolean();
+        oneFarIn = random.nextInt(4) == 0 ? 8 : 100;
         this.check = check;
     }
 
@@ -36,7 +41,7 @@ public final class PlainModelTest {
     }
 
     private int upTo(int most) {
-        return random.nextInt(100) == 0 ? FAR[random.nextInt(FAR.length)] : random.nextInt(most + 1);
+        return random.nextInt(oneFarIn) == 0 ? FAR[random.nextInt(FAR.length)] : random.nextInt(most + 1);
     }
 
     private int door() {
@@ -55,6 +60,7 @@ public final class PlainModelTest {
         text.append(')');
         told.append("\n  ").append(text).append(" -> ").append(got);
         check.due(text.toString(), got, want);
+        calls++;
     }
 
     private void play() {
@@ -68,13 +74,12 @@ public final class PlainModelTest {
         for (int i = random.nextInt(11); i > 0; i--) {
             effect();
         }
-        int rest = CALLS - programs * lengths - 10;
-        while (rest > 0 && check.wrong() == 0) {
-            rest -= some(upTo(3));
+        while (calls + CALLS_AT_ONCE <= CALLS && check.wrong() == 0) {
+            some(upTo(3));
         }
     }
 
-    private int some(int p) {
+    private void some(int p) {
         int choice = random.nextInt(40);
         if (choice < 3) {
             change(p);
@@ -86,17 +91,16 @@ public final class PlainModelTest {
         } else if (choice < 6) {
             effect();
         } else if (choice < 12) {
-            return run(p);
+            run(p);
         } else if (choice < 22) {
-            return list(p);
+            list(p);
         } else if (choice < 28) {
-            return way(p);
+            way(p);
         } else if (choice < 36) {
             house();
         } else {
             look(p);
         }
-        return 1;
     }
 
     private int kind() {
@@ -124,22 +128,21 @@ public final class PlainModelTest {
         due("effect", lister.effect(a[0], a[1], a[2], a[3], a[4]), plain.effect(a[0], a[1], a[2], a[3], a[4]), a);
     }
 
-    private int run(int p) {
+    private void run(int p) {
         int[] a = new int[5];
         for (int i = 0; i < 5; i++) {
             a[i] = narrow ? random.nextInt() & 0x07030107 : random.nextInt();
         }
         due("feed", lister.feed(a[0], a[1], a[2], a[3], a[4]), plain.feed(a[0], a[1], a[2], a[3], a[4]), a);
         if (random.nextInt(3) == 0) {
-            return 1;
+            return;
         }
         int n = upTo(plain.count(-1, 1));
         due("run", lister.run(p, n), plain.run(p, n), p, n);
         due("ended", lister.ended(), plain.ended());
-        return 3;
     }
 
-    private int list(int p) {
+    private void list(int p) {
         int phase = upTo(1);
         int door = door();
         int set = upTo(15);
@@ -156,13 +159,11 @@ public final class PlainModelTest {
                 for (int what = -1; what < 4; what++) {
                     due("span", lister.span(p, phase, i, what), plain.span(p, phase, i, what), p, phase, i, what);
                 }
-                return 6;
             }
         }
-        return 1;
     }
 
-    private int way(int p) {
+    private void way(int p) {
         int phase = upTo(1);
         int door = door();
         int argument = argument();
@@ -178,7 +179,6 @@ public final class PlainModelTest {
             due("way", lister.way(p, phase, door, argument, i), plain.way(p, phase, door, argument, i),
                     p, phase, door, argument, i);
         }
-        return Math.min(steps + 2, 31) + 1;
     }
 
     private void house() {

@@ -22,7 +22,7 @@ public final class RoomTest {
         check.due("fields and elements " + before[1], before[1] <= ELEMENTS_MOST, true);
         long bytes = allocated();
         int calls = 0;
-        for (int i = 0; i < 100; i++) {
+        for (int i = 0; i < 80; i++) {
             lister.change(i % 4, 23, Kinds.GO, 0, 0, i % 20);
             calls += lister.shut(15, i % 8);
             calls += lister.way(i % 4, 0, i % 32, 31 - i % 32, i);
