@@ -38,7 +38,7 @@ public final class DepthTest {
     public static void main(String[] args) throws IOException {
         Check check = new Check("DepthTest");
         DepthTest test = new DepthTest(check);
-        test.read(Path.of(System.getProperty("doorlister.source")));
+        test.read(Project.SOURCE);
         for (Element method : test.calls.keySet()) {
             int depth = test.depth(method);
             check.due(method.getEnclosingElement() + "." + method + " goes " + depth + " deep", depth <= DEEPEST, true);

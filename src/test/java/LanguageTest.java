@@ -4,8 +4,6 @@ import java.lang.reflect.Field;
 import java.lang.reflect.Member;
 import java.lang.reflect.Method;
 import java.lang.reflect.Modifier;
-import java.nio.file.Files;
-import java.nio.file.Path;
 import java.util.Arrays;
 import java.util.Set;
 import java.util.TreeSet;
@@ -29,7 +27,7 @@ public final class LanguageTest {
             inside(check, inside);
         }
         check.due("some twelve classes at most", DoorLister.class.getDeclaredClasses().length <= 11, true);
-        words(check, Files.readString(Path.of(System.getProperty("doorlister.source"))));
+        words(check, Project.source());
         check.end();
     }
 
