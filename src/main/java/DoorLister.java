@@ -14,6 +14,7 @@ public final class DoorLister {
     /** Numbers in registers, doors and arguments all go from 0 to 31, so that an int holds a bit for each. */
     private static final int VALUES = 32;
     private static final int HIGHEST = VALUES - 1;
+    private static final int CALLS_MOST = VALUES * VALUES;
     private static final int TAPE_MOST = 80;
     private static final int FEED_BYTES = 20;
     private static final int RUN_MOST = 500;
@@ -481,7 +482,7 @@ public final class DoorLister {
         private final Code code;
         private final Scratch scratch;
         private final int[] links = new int[MOST];
-        private final int[] firstItems = new int[PHASES * VALUES * VALUES];
+        private final int[] firstItems = new int[PHASES * CALLS_MOST];
         private final CallTable calls = new CallTable();
         private int size;
         private int come;
@@ -922,7 +923,7 @@ public final class DoorLister {
                 return NONE;
             }
             int best = allowed;
-            int fewest = Integer.MAX_VALUE;
+            int fewest = CALLS_MOST + 1;
             for (int cut = 0; cut <= allowed && fewest > 0; cut++) {
                 if ((cut & ~allowed) == 0) {
                     int calls = takeOut(list, cut);
